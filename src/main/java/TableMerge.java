@@ -124,7 +124,7 @@ public final class TableMerge {
             case 4: return Integer.bitCount(freshMerge().result.rows);
             case 5: return freshMerge().size;
             case 6: return state.countChoices();
-            case 7: return freshMerge().countWaiting(state);
+            case 7: return state.countChoices() - freshMerge().used;
             case 8: return freshMerge().result.countFull();
             case 9: return acts.size;
             case 10: return seen.size;
@@ -934,17 +934,16 @@ public final class TableMerge {
         final Table result = new Table();
         final int[] owners = new int[CELLS];
         int size;
+        int used;
         final int[] ids = new int[CONFLICT_IDS];
         final int[] byLeft = new int[CONFLICT_IDS];
         final int[] byRight = new int[CONFLICT_IDS];
-        private final int[] cameUp = new int[CONFLICT_IDS];
         private final int[] columnsOfRight = new int[COLUMNS];
 
         void run(State s) {
             result.clear();
-            Arrays.fill(owners, 0);
-            Arrays.fill(cameUp, 0);
             size = 0;
+            used = 0;
             for (int c = 0; c < COLUMNS; c++) {
                 columnsOfRight[c] = c;
             }
@@ -959,10 +958,8 @@ public final class TableMerge {
                 mergeRow(s, k);
             }
             for (int k = 0; k < KEYS; k++) {
-                for (int c = 0; c < COLUMNS; c++) {
-                    if (result.hasCell(k, c)) {
-                        mergeCell(s, k, c);
-                    }
+                if (result.hasRow(k)) {
+                    mergeCells(s, k);
                 }
             }
             for (int d = 0; d < s.demands && d < MOST_DEMANDS; d++) {
@@ -991,24 +988,15 @@ public final class TableMerge {
             return false;
         }
 
-        int countWaiting(State s) {
-            int waiting = 0;
-            for (int id = 0; id < CONFLICT_IDS; id++) {
-                if (s.choices[id] != NONE && cameUp[id] == 0) {
-                    waiting++;
-                }
-            }
-            return waiting;
-        }
-
-        /** The CHOICE by which what comes up is SETTLED; NONE, and it is a CONFLICT, if there is none. */
+        /** The CHOICE by which what comes up (once a merge) is SETTLED; NONE, and it is a CONFLICT, if there is none. */
         private int ask(State s, int id, int left, int right) {
             if (id < 0 || id >= CONFLICT_IDS) {
                 return NONE;
             }
-            cameUp[id] = 1;
             int choice = s.choices[id];
-            if (choice == NONE && size < CONFLICT_IDS) {
+            if (choice != NONE) {
+                used++;
+            } else if (size < CONFLICT_IDS) {
                 ids[size] = id;
                 byLeft[size] = left;
                 byRight[size] = right;
@@ -1145,17 +1133,29 @@ public final class TableMerge {
             result.putRow(key);
         }
 
+        private void mergeCells(State s, int key) {
+            for (int c = 0; c < COLUMNS; c++) {
+                if (result.hasColumn(c)) {
+                    mergeCell(s, key, c);
+                }
+            }
+        }
+
         /** WHOSE a CELL is are bits: 1 for LEFT, 2 for RIGHT; a CHOICE names them alike. */
         private void mergeCell(State s, int key, int column) {
             int type = result.types[column];
             int ofRight = columnsOfRight[column];
             int owner = (s.isChanged(LEFT, key, column) ? 1 : 0) + (s.isChanged(RIGHT, key, ofRight) ? 2 : 0);
+            int base = Types.cast(s.base.numberAt(key, column), type);
+            if (owner == 0) {
+                putMerged(key, column, base, 0);
+                return;
+            }
             int left = Types.cast(s.left.numberAt(key, column), type);
             int right = Types.cast(s.right.numberAt(key, ofRight), type);
             if (owner == 3 && left != right) {
                 owner = Math.max(0, ask(s, Conflicts.idOf(CELLS_MEET, key, column), left, right));
             }
-            int base = Types.cast(s.base.numberAt(key, column), type);
             putMerged(key, column, owner == 3 ? left : chosen(owner, base, left, right), owner);
         }
 

@@ -5,11 +5,13 @@ public final class ActsTest {
     public static void main(String[] args) {
         settles();
         unsettles();
+        noNumbers();
         choicesWait();
         flips();
         flipsAllKinds();
         commits();
         commitsNumberAnew();
+        commitsFewer();
         commitsRefused();
         undoes();
         thirtyActs();
@@ -55,6 +57,26 @@ public final class ActsTest {
         CHECK.is("undone", x.undo(), 1);
         CHECK.is("the choice is there", x.cell(3, 1, 0), 6);
         CHECK.is("choice 0 taken back", choiceZero(), 0);
+    }
+
+    /** Numbers that are none, though they would fall on another CONFLICT's place in a row of all. */
+    private static void noNumbers() {
+        TableMerge x = Check.told("column a number;column b number;row 0 1 1;row 1 1 1;needed 0;unique 0;left rename 0 x;right rename 0 y;"
+                + "left set 0 0 2;right set 0 0 3;left set 1 0 4;right set 1 0 5;");
+        x.settle(1, 0, 0, 1);
+        x.settle(5, 0, 0, 1);
+        x.settle(5, 1, 0, 0);
+        x.set(0, 1, 0, 2);
+        x.unsettle(5, 1, 0);
+        x.settle(5, 1, 0, 1);
+        CHECK.is("settled", x.settle(6, 1, 1, 0), 0);
+        int refused = x.count(13);
+        int[][] none = {{0, 9, 0}, {4, 20, 0}, {5, 0, 9}, {5, -1, 9}, {5, 2, -9}, {6, 0, 21}, {6, 2, -19}, {1, 0, 1}, {1, -9, 0}, {3, -18, 0}, {4, 20, 9}, {6, 4, 1}, {0, 9, 9}};
+        for (int[] id : none) {
+            CHECK.is("unsettle " + id[0] + " " + id[1] + " " + id[2], x.unsettle(id[0], id[1], id[2]), -1);
+        }
+        CHECK.is("refused", x.count(13), refused + none.length);
+        CHECK.is("choices", x.count(6), 4);
     }
 
     private static int choiceZero() {
@@ -120,6 +142,10 @@ public final class ActsTest {
         CHECK.is("choice of a type", x.unsettle(2, 1, 0), 1);
         CHECK.is("choice of a name twice, under the other number", x.unsettle(3, 5, 0), 1);
         CHECK.is("choice of a row that is gone", x.unsettle(4, 2, 0), 1);
+        TableMerge base = Check.told("column a number;row 1 1;left set 1 0 5;right set 1 0 6;");
+        base.settle(5, 1, 0, 0);
+        base.flip();
+        CHECK.is("the BASE's stays", base.unsettle(5, 1, 0), 0);
         TableMerge y = Check.told("row 1;left add z digit;right add z digit;left set 1 5 1;right set 1 7 2;");
         y.settle(5, 1, 5, 1);
         y.flip();
@@ -174,6 +200,26 @@ public final class ActsTest {
         CHECK.is("conflicts", x.count(5), 1);
         CHECK.is("LEFT's numbers were never had", x.add(0, 0, 0), 5);
         CHECK.is("RIGHT's too", x.add(1, 0, 0), 7);
+    }
+
+    private static void commitsFewer() {
+        TableMerge x = Check.told("column a number;column b number;column c number;row 1 1 2 3;row 2 4 5 6;below 1 2;unique 0;left drop 0;right delete 2;");
+        CHECK.is("committed", x.commit(), 1);
+        CHECK.is("columns", x.table(2, 0), 3);
+        CHECK.is("LEFT's columns", x.table(0, 0), 3);
+        CHECK.is("demands", x.count(2), 1);
+        CHECK.is("cells", x.count(8), 2);
+        x.set(0, 1, 0, 3);
+        CHECK.conflict(x, 0, 6, 0, 1);
+        CHECK.is("below, of the first and the second", x.settle(6, 0, 1, 0), 0);
+        CHECK.is("the second one is EMPTY", x.cell(3, 1, 1), 9999);
+        TableMerge y = Check.told("column a number;column b number;column c number;column d number;row 1 9 1 2 3;below 1 3;needed 2;left drop 0;");
+        y.commit();
+        CHECK.is("no conflict", y.count(5), 0);
+        y.set(1, 1, 2, 1);
+        CHECK.is("below 0 2", y.count(5), 1);
+        y.set(1, 1, 1, TableMerge.EMPTY);
+        CHECK.is("needed 1", y.count(5), 2);
     }
 
     private static void commitsRefused() {

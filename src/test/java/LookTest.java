@@ -15,6 +15,7 @@ public final class LookTest {
         casts();
         demands();
         demandsInOrder();
+        firstAndLastNumbers();
         CHECK.end();
     }
 
@@ -34,6 +35,9 @@ public final class LookTest {
         for (int what = 0; what < then.length; what++) {
             CHECK.is("count then " + what, x.count(what), then[what]);
         }
+        TableMerge y = Check.told("column a number;row 1 1;left insert 2;left insert 3;left add x flag;");
+        CHECK.is("columns of the BASE", y.count(0), 1);
+        CHECK.is("rows of the BASE", y.count(1), 1);
         CHECK.noSuch("count(-1)", () -> x.count(-1));
         CHECK.noSuch("count(15)", () -> x.count(15));
     }
@@ -310,6 +314,23 @@ public final class LookTest {
         TableMerge gone = Check.told("column a number;column b number;row 1 5 5;unique 0;below 1 0;needed 1;left drop 0;left set 1 1 _;");
         CHECK.is("only the demand of the column that is there", gone.count(5), 1);
         CHECK.conflict(gone, 0, 6, 2, 1);
+    }
+
+    private static void firstAndLastNumbers() {
+        TableMerge x = Check.told("column a number;row 0 1;row 19 1;unique 0;needed 0;needed 0;needed 0;left set 0 0 2;right set 0 0 3;left delete 19;right set 19 0 _;");
+        CHECK.conflict(x, 0, 4, 19, 0);
+        CHECK.conflict(x, 1, 5, 0, 0);
+        CHECK.conflict(x, 2, 6, 1, 19);
+        CHECK.conflict(x, 4, 6, 3, 19);
+        TableMerge y = Check.told("column a number;row 0 _;needed 0;");
+        CHECK.conflict(y, 0, 6, 0, 0);
+        TableMerge z = Check.told("column a number;row 0 1;left delete 0;right set 0 0 2;");
+        CHECK.conflict(z, 0, 4, 0, 0);
+        TableMerge w = Check.told("row 19;left add x flag;right add y flag;right add z digit;left add z digit;right set 19 8 1;left set 19 6 2;right rename 7 x;right retype 7 digit;");
+        CHECK.conflict(w, 0, 3, 7, 0);
+        CHECK.conflict(w, 1, 5, 19, 6);
+        TableMerge v = Check.told("left add x flag;right add y flag;right add x digit;");
+        CHECK.conflict(v, 0, 3, 8, 0);
     }
 
     private static void demandsInOrder() {

@@ -33,6 +33,9 @@ public final class QuestionsTest {
             CHECK.is("LEFT's difference " + what, x.difference(0, what), left[what]);
             CHECK.is("RIGHT's difference " + what, x.difference(1, what), right[what]);
         }
+        TableMerge y = Check.told("column a number;column b number;column c number;right rename 1 x;right rename 2 y;right retype 2 flag;");
+        CHECK.is("two renamed", y.difference(1, 5), 2);
+        CHECK.is("one retyped", y.difference(1, 6), 1);
         CHECK.noSuch("side -1", () -> x.difference(-1, 0));
         CHECK.noSuch("side 2", () -> x.difference(2, 0));
         CHECK.noSuch("what -1", () -> x.difference(0, -1));
@@ -232,6 +235,8 @@ public final class QuestionsTest {
         edited(x, 2 + 8, 1150, 1);
         x.retype(1, 2, 1);
         edited(x, 2 + 9, 1150, 1);
+        TableMerge left = Check.told("column a flag;column b flag;row 1 0 0;row 2 0 0;left delete 1;left drop 1;left insert 5;right insert 5;left add x flag;");
+        edited(left, 4, 1051, 1);
         TableMerge none = new TableMerge();
         edited(none, 0, -1, 1);
         none.see(0, 0, 9999);

@@ -190,7 +190,8 @@ public final class TextTest {
         bad(2, "row ^20;");
         bad(2, "row ^00001;");
         bad(2, "left insert ^20;");
-        bad(2, "left set ^99 0 1;");
+        bad(2, "left set ^20 0 1;");
+        bad(2, "left delete ^20;");
         bad(2, "left set 1 ^00000 1;");
         bad(2, "left drop ^12345;");
         bad(2, "column a number;row 1 ^1000;");
