@@ -22,6 +22,7 @@ public final class ActBoundsTest {
         bothSidesAsIt();
         choicesAreGone();
         thirtyActs();
+        refusedBehindThirty();
         everyKindOfActIsUndone();
         undoIsNoAct();
         imageInPlaceOfAnother();
@@ -199,7 +200,9 @@ public final class ActBoundsTest {
             TableMerge y = Check.told((second == 0 ? "" : "left add y flag;right add x flag;") + "left add z digit;right add z even;");
             y.settle(3, 7 + second, 0, 1);
             y.flip();
-            CHECK.is("3 waits under LEFT's number", y.count(7), 1);
+            CHECK.is("3 waits", y.count(7), 1);
+            CHECK.is("under LEFT's number", y.unsettle(3, 5 + second, 0), 1);
+            y.undo();
             y.flip();
             CHECK.is("and is back", y.unsettle(3, 7 + second, 0), 1);
         }
@@ -306,6 +309,24 @@ public final class ActBoundsTest {
         x.undo();
         x.undo();
         CHECK.is("undone: four", x.count(2), 4);
+        TableMerge behind = Check.told("column a number;column b number;column c number;row 1 1 2 3;needed 2;below 0 2;left drop 1;");
+        behind.commit();
+        behind.set(0, 1, 1, EMPTY);
+        CHECK.is("NEEDED of the column that was 2", behind.count(5), 1);
+        CHECK.conflict(behind, 0, 6, 0, 1);
+        behind.set(0, 1, 1, 0);
+        CHECK.is("BELOW of those that were 0 and 2", behind.count(5), 1);
+        CHECK.conflict(behind, 0, 6, 1, 1);
+        TableMerge all5 = Check.told("column a number;column b number;column c number;column d number;column e number;row 1 1 2 3 4 5;needed 4;needed 3;needed 1;needed 0;");
+        all5.commit();
+        for (int c = 0; c < 5; c++) {
+            all5.set(0, 1, c, EMPTY);
+            CHECK.is("NEEDED of 0, 1, 3, 4: by " + c, all5.count(5), c == 2 ? 0 : 1);
+            if (c != 2) {
+                CHECK.conflict(all5, 0, 6, c == 0 ? 3 : c == 1 ? 2 : c == 3 ? 1 : 0, 1);
+            }
+            all5.undo();
+        }
         TableMerge second = Check.told("column a number;column b number;below 0 1;needed 0;needed 0;unique 0;right drop 1;");
         second.commit();
         CHECK.is("without the second of BELOW", second.count(2), 3);
@@ -372,6 +393,29 @@ public final class ActBoundsTest {
             CHECK.yes("an act again", x.set(0, 1, 0, 500));
             CHECK.is("one", x.count(9), 1);
             CHECK.is("undone", x.undo(), 0);
+        }
+    }
+
+    /** A refused ACT is none: with 30 that are kept, each of them is undone as it was. */
+    private static void refusedBehindThirty() {
+        for (int acts : new int[] {29, 30, 31, 45, 60, 61}) {
+            TableMerge x = Check.told("column a number;row 1 0;");
+            for (int i = 1; i <= acts; i++) {
+                x.set(0, 1, 0, i);
+            }
+            x.set(0, 1, 0, acts);
+            x.insert(1, 20);
+            x.settle(5, 1, 0, 0);
+            x.unsettle(5, 1, 0);
+            x.add(0, 0, 0);
+            CHECK.is("refused", x.count(13), 5);
+            int kept = Math.min(30, acts);
+            CHECK.is("kept", x.count(9), kept);
+            for (int left = kept - 1; left >= 0; left--) {
+                CHECK.is("undone", x.undo(), left);
+                CHECK.is("the number then", x.cell(0, 1, 0), acts - kept + left);
+            }
+            CHECK.is("none left", x.undo(), -1);
         }
     }
 
@@ -461,7 +505,9 @@ public final class ActBoundsTest {
         x.image();
         x.settle(0, 1, 0, 1);
         x.forget();
-        x.see(1, 0, 7);
+        x.see(4, 5, 7);
+        x.see(19, 8, EMPTY);
+        x.see(0, 0, -999);
         x.flip();
         x.delete(0, 1);
         x.undo();

@@ -92,6 +92,8 @@ public final class MergeBoundsTest {
             one("retyped", Check.told(drop + other + " retype 0 digit;"), 0, 0, 0);
             one("a cell changed", Check.told(drop + other + " set 1 0 9;"), 0, 0, 0);
             one("a cell EMPTY", Check.told(drop + other + " set 2 0 _;"), 0, 0, 0);
+            one("of key 0 alone", Check.told("column a number;row 0 1;" + s[0] + " drop 0;" + other + " set 0 0 2;"), 0, 0, 0);
+            one("of key 19 alone", Check.told("column a number;row 19 1;" + s[0] + " drop 0;" + other + " set 19 0 2;"), 0, 0, 0);
             one("an inserted row's cell", Check.told(drop + other + " insert 3;" + other + " set 3 0 0;"), 0, 0, 0);
             one("a row gone and there again", Check.told(drop + other + " delete 1;" + other + " insert 1;"), 0, 0, 0);
         }
@@ -585,5 +587,9 @@ public final class MergeBoundsTest {
         }
         CHECK.is("columns", x.table(3, 0), 511);
         CHECK.is("rows", x.table(3, 1), 0xff | 15 << 16);
+        CHECK.is("the first cell is counted", Check.told("column a number;row 0 0;").count(8), 1);
+        CHECK.is("the last cell is counted", Check.told("row 19;right add a flag;right add b flag;right set 19 8 0;").count(8), 1);
+        CHECK.is("EMPTY ones aren't", Check.told("column a number;row 0 _;row 19 _;").count(8), 0);
+        CHECK.is("nor those of a side", Check.told("column a number;row 0 1;left set 0 0 _;").count(8), 0);
     }
 }

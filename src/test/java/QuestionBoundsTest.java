@@ -33,6 +33,8 @@ public final class QuestionBoundsTest {
         yearsWrap();
         yearsByHand();
         yearsRefuseWhatCantBe();
+        questionsDontMix();
+        questionsAreAskedAnew();
         asEverBehindIt();
         CHECK.end();
     }
@@ -551,6 +553,90 @@ public final class QuestionBoundsTest {
             sum += x.years(first, 60, 0);
         }
         CHECK.yes("some are done, some aren't", sum > 0 && sum < 60 * 60);
+    }
+
+    private static int ask(TableMerge x, int question) {
+        int what = question % 3;
+        switch (question / 3) {
+            case 0: return x.along(0, what);
+            case 1: return x.along(1, what);
+            case 2: return x.along(2, what);
+            case 3: return x.alone(0, what);
+            case 4: return x.alone(1, what);
+            case 5: return x.edited(what);
+            default: return x.years(3, 20, what);
+        }
+    }
+
+    private static final String MANY = "column a number;column b digit;row 1 1 2;row 2 3 4;row 3 5 6;row 4 _ 7;unique 0;needed 0;left set 1 0 5;right set 1 0 6;"
+            + "left delete 2;right set 2 1 9;right add z flag;left set 3 1 8;right set 3 1 9;left set 4 1 2;right set 3 0 1;";
+
+    /** One question behind another, in each order, is answered as if it were the only one. */
+    private static void questionsDontMix() {
+        int[] due = new int[21];
+        for (int q = 0; q < 21; q++) {
+            due[q] = ask(Check.told(MANY), q);
+        }
+        for (int first = 0; first < 21; first++) {
+            TableMerge x = Check.told(MANY);
+            for (int step = 0; step < 21; step++) {
+                int q = (first + step * 5) % 21;
+                CHECK.is("question " + q + " behind " + step + " others", ask(x, q), due[q]);
+            }
+            TableMerge y = Check.told(MANY);
+            for (int other = 0; other < 21; other++) {
+                ask(y, first);
+                CHECK.is("question " + other + " behind " + first, ask(y, other), due[other]);
+            }
+        }
+        for (int i = 0; i < 7; i++) {
+            for (int j = 0; j < i; j++) {
+                TableMerge x = Check.told(MANY);
+                TableMerge y = Check.told(MANY);
+                x.set(0, 1, 0, 7);
+                y.set(0, 1, 0, 7);
+                ask(x, 3 * j);
+                int ahead = ask(x, 3 * i + 1);
+                CHECK.is("question " + i + " behind " + j, ahead, ask(y, 3 * i + 1));
+            }
+        }
+    }
+
+    /** What was asked ahead of a change is asked anew behind it. */
+    private static void questionsAreAskedAnew() {
+        for (int q = 0; q < 21; q++) {
+            TableMerge x = Check.told(MANY);
+            TableMerge y = Check.told(MANY);
+            for (int change = 0; change < 9; change++) {
+                ask(x, q);
+                change(x, change);
+                change(y, change);
+                CHECK.is("question " + q + " behind change " + change, ask(x, q), ask(again(change), q));
+            }
+            CHECK.is("question " + q + " in the end", ask(x, q), ask(y, q));
+        }
+    }
+
+    private static TableMerge again(int last) {
+        TableMerge z = Check.told(MANY);
+        for (int change = 0; change <= last; change++) {
+            change(z, change);
+        }
+        return z;
+    }
+
+    private static void change(TableMerge x, int change) {
+        switch (change) {
+            case 0: x.set(0, 1, 0, 6); break;
+            case 1: x.image(); x.see(1, 0, 3); break;
+            case 2: x.settle(4, 2, 0, 0); break;
+            case 3: x.flip(); break;
+            case 4: x.undo(); break;
+            case 5: x.forget(); break;
+            case 6: x.unsettle(4, 2, 0); break;
+            case 7: x.delete(1, 4); break;
+            default: x.restore(); break;
+        }
     }
 
     /** "(All as ever behind it.)": of years, and of every other question. */

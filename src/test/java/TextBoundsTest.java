@@ -569,6 +569,9 @@ public final class TextBoundsTest {
         bad(1, "left ^;");
         bad(1, "left ^left insert 1;");
         bad(1, "left ^unique 0;");
+        bad(1, "row 1;left ^1;");
+        bad(1, "row 1;right ^1 1 1;");
+        bad(1, "row 1;left ^-1;");
         good("row 1;left delete 1;left insert 1;left delete 1;right delete 1;");
         bad(6, "row 1;left delete 1;left insert 1;left delete 1;^left delete 1;");
     }
