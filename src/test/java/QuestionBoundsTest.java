@@ -261,6 +261,18 @@ public final class QuestionBoundsTest {
         alone("RIGHT's 7 is merged as 6", x, 1, 0, 0, 0);
         x.set(1, 1, 7, 4);
         alone("alike", x, 1, 0, 1, 1);
+        for (int side = 0; side < 2; side++) {
+            String own = side == 0 ? "left" : "right";
+            int number = side == 0 ? 5 : 7;
+            TableMerge added = Check.told("column a number;row 0 1;row 19 2;" + own + " add y flag;" + own + " add z digit;"
+                    + own + " set 0 " + number + " 1;" + own + " set 0 0 9;" + own + " set 19 " + (number + 1) + " 0;");
+            alone("an added column's cells", added, side, 0, 3, 7);
+            alone("the other side has none", added, 1 - side, 0, 0, 0);
+            added.set(1 - side, 0, 0, 8);
+            alone("the first one meets", added, side, 0, 2, 6);
+            added.drop(side, number);
+            alone("without the dropped one", added, side, 0, 1, 2);
+        }
         TableMerge gone = Check.told("column a number;row 1 1;right add x flag;right add z digit;left add y flag;left add z even;right set 1 7 1;right set 1 8 3;");
         one(gone);
         gone.settle(3, 8, 0, 1);
