@@ -20,6 +20,7 @@ public final class ActBoundsTest {
         columnsNumberedAnew();
         demandsThatAreThereStill();
         bothSidesAsIt();
+        committedAsChoicesMadeIt();
         choicesAreGone();
         thirtyActs();
         refusedBehindThirty();
@@ -352,6 +353,34 @@ public final class ActBoundsTest {
         CHECK.is("RIGHT's first", x.add(1, 20, 0), 7);
         CHECK.is("RIGHT's second", x.add(1, 21, 0), 8);
         CHECK.is("LEFT's third", x.add(0, 22, 0), -1);
+        for (int i = 0; i < 5; i++) {
+            x.undo();
+        }
+        CHECK.is("undone: LEFT's columns", x.table(0, 0), 1 | 1 << 6);
+        CHECK.is("undone: LEFT's two were had", x.add(0, 22, 0), -1);
+        CHECK.is("undone: RIGHT's first was", x.add(1, 22, 0), 8);
+    }
+
+    /** A CONFLICT that is SETTLED is none: the BASE is as the CHOICES made it. */
+    private static void committedAsChoicesMadeIt() {
+        TableMerge x = Check.told("column b number;column c number;column d number;row 1 5 6 7;row 2 5 8 9;unique 0;needed 0;"
+                + "left rename 1 x;right rename 2 x;left retype 1 digit;right retype 1 even;left set 1 1 3;right set 1 1 8;");
+        CHECK.is("conflicts", x.count(5), 4);
+        x.settle(2, 1, 0, 2);
+        x.settle(3, 2, 0, 0);
+        x.settle(5, 1, 1, 1);
+        x.settle(6, 0, 2, 0);
+        CHECK.is("one more by the demand behind it", x.count(5), 1);
+        x.settle(6, 1, 2, 0);
+        CHECK.is("committed", x.commit(), 2);
+        CHECK.is("LEFT's name", x.column(2, 1, 0), 23);
+        CHECK.is("RIGHT's type", x.column(2, 1, 1), 2);
+        CHECK.is("the least name", x.column(2, 2, 0), 0);
+        CHECK.is("LEFT's cell, cast", x.cell(2, 1, 1), 2);
+        CHECK.is("made 0", x.cell(2, 2, 0), 0);
+        CHECK.is("the BASE's now", x.whose(2, 0), 0);
+        CHECK.is("no conflict", x.count(5), 0);
+        CHECK.is("demands", x.count(2), 2);
     }
 
     /** "CHOICES are gone", those that wait, too. */

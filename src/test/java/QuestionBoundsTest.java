@@ -23,6 +23,7 @@ public final class QuestionBoundsTest {
         seenAtMostEight();
         seenBounds();
         forgetAll();
+        seenStays();
         editedNumbers();
         editedTypes();
         editedOfTheBaseAndRight();
@@ -360,6 +361,26 @@ public final class QuestionBoundsTest {
         CHECK.is("so without", x.edited(2), 1);
         CHECK.is("by all", x.edited(0), 18);
         CHECK.is("no act", x.count(9) + x.count(13) + x.count(14), 0);
+    }
+
+    /** SEEN by KEY and COLUMN: no ACT changes it, flipping, committing and undoing neither. */
+    private static void seenStays() {
+        TableMerge x = Check.told("column a number;column b number;row 1 1 2;left drop 0;left add z flag;left set 1 5 1;");
+        x.see(1, 5, 1);
+        CHECK.is("so", x.edited(2), 1);
+        x.flip();
+        CHECK.is("seen", x.count(10), 1);
+        CHECK.is("the column is 7 now: not so", x.edited(2), 0);
+        x.undo();
+        CHECK.is("so again", x.edited(2), 1);
+        x.commit();
+        CHECK.is("seen", x.count(10), 1);
+        CHECK.is("the column is 1 now: not so", x.edited(2), 0);
+        x.see(1, 1, 1);
+        x.undo();
+        CHECK.is("seen behind the act that was undone", x.count(10), 2);
+        x.see(1, 1, 1000);
+        CHECK.is("refused, seen as it was", x.count(10), 2);
     }
 
     /** "numbers that their TYPES there hold (-9 to 9) .. (another one than it has ..)". */
