@@ -93,6 +93,7 @@ public final class ActBoundsTest {
         }
     }
 
+    /** "UNSETTLING (a CHOICE is taken back)": one that waits, too. */
     private static void takenBackWhileItWaits() {
         TableMerge x = Check.told(CELLS_MEET);
         x.settle(5, 1, 0, 2);
@@ -485,6 +486,7 @@ public final class ActBoundsTest {
         return all.append(' ').append(x.count(5)).append(' ').append(x.count(6)).toString();
     }
 
+    /** "ACTS: EDITS by hand, SETTLING, UNSETTLING, FLIPPING, COMMITTING": and no other call. */
     private static void undoIsNoAct() {
         TableMerge x = Check.told("row 1;");
         x.insert(0, 2);
@@ -548,6 +550,7 @@ public final class ActBoundsTest {
         CHECK.is("and no more", x.add(0, 21, 0), -1);
     }
 
+    /** "ACTS (at most 30 are kept, the latest ones)", in an image, too. */
     private static void imageOfThirtyActs() {
         TableMerge x = Check.told("column a number;row 1 0;");
         for (int i = 1; i <= 45; i++) {

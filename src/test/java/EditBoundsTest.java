@@ -58,6 +58,7 @@ public final class EditBoundsTest {
         }
     }
 
+    /** "NUMBER (-999 to 999)": what is refused leaves the number that was set last. */
     private static void numbersSet() {
         TableMerge x = Check.told(FOUR);
         CHECK.yes("-999", x.set(0, 0, 0, -999));

@@ -66,6 +66,7 @@ public final class MergeBoundsTest {
         CHECK.is("not of the BASE's rows and columns", column.difference(1, 0) + row.difference(0, 0), 0);
     }
 
+    /** "COLUMNS of the BASE: gone in both: gone". */
     private static void columnGoneInBoth() {
         TableMerge x = Check.told("column a number;column b number;row 1 1 2;left set 1 0 9;left rename 0 z;left drop 0;right drop 0;");
         none("gone in both", x);
@@ -253,6 +254,7 @@ public final class MergeBoundsTest {
         CHECK.is("g is free again", most.column(3, 1, 0), 6);
     }
 
+    /** "ROWS of the BASE: gone in both: gone". */
     private static void rowGoneInBoth() {
         TableMerge x = Check.told("column a number;row 0 1;row 19 2;left set 19 0 5;left delete 19;right delete 19;");
         none("gone in both", x);

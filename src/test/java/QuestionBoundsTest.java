@@ -84,6 +84,7 @@ public final class QuestionBoundsTest {
         CHECK.is("what is merged doesn't matter", x.difference(1, 0), 0);
     }
 
+    /** "how many CELLS", "ROWS that it has more, fewer": of 60 CELLS and 12 ROWS at the most. */
     private static void differenceAtTheMost() {
         StringBuilder text = new StringBuilder("column a flag;column b flag;column c flag;column d flag;column e flag;");
         for (int k = 0; k < 12; k++) {
@@ -132,6 +133,7 @@ public final class QuestionBoundsTest {
         along(chain, 1, 1, 0, 1);
     }
 
+    /** "SETTLED by a told CHOICE (0 to 2)": 0 the BASE's, 1 LEFT's, 2 RIGHT's. */
     private static void alongByEachChoice() {
         TableMerge x = Check.told("column a number;column b number;row 1 1 1;row 2 2 2;row 3 3 3;below 0 1;left set 1 0 9;left set 1 1 8;right set 1 0 4;right set 1 1 5;");
         along(x, 0, 3 + 2, 0, 3);
@@ -170,6 +172,7 @@ public final class QuestionBoundsTest {
         along(x, 2, 84, 0, 12);
     }
 
+    /** "how many were": by a CHOICE that is there already none is. */
     private static void alongWithChoices() {
         TableMerge x = Check.told("column a number;row 1 1;row 2 2;left set 1 0 5;right set 1 0 6;left set 2 0 5;right set 2 0 6;");
         along(x, 1, 2, 0, 2);
@@ -405,6 +408,7 @@ public final class QuestionBoundsTest {
         CHECK.is("from EMPTY", isEmpty.edited(0), 19);
     }
 
+    /** "numbers that their TYPES there hold": RIGHT's TYPES. */
     private static void editedTypes() {
         String[] types = {"number", "digit", "even", "flag"};
         int[] ways = {19, 10, 9, 2};
@@ -570,6 +574,7 @@ public final class QuestionBoundsTest {
         CHECK.is("what can't be done is refused by hand", hand.count(13), n - done);
     }
 
+    /** "if it can be done: how many were; CONFLICTS then; ROWS merged then", as by the same EDITS by hand. */
     private static void yearsByHand() {
         for (int first = 100; first < 200; first++) {
             yearsAs(first * 7919, first % 61);
